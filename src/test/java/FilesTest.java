@@ -27,6 +27,9 @@ public final class FilesTest {
             Check.due("poke " + at, x.poke(at, 255), 0);
             Check.due("poke again " + at, x.poke(at, 128), 255);
             Check.due("peek " + at, x.peek(at), 128);
+            Check.due("poke of 0 at " + at, x.poke(at, 0), 128);
+            Check.due("0 at " + at, x.peek(at), 0);
+            x.poke(at, 77);
         }
         Check.due("the neighbour", x.peek(1), 0);
         Check.due("the other neighbour", x.peek(1998), 0);
