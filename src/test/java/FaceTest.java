@@ -3,6 +3,9 @@ import java.lang.reflect.Field;
 import java.lang.reflect.Method;
 import java.lang.reflect.Modifier;
 import java.util.Arrays;
+import java.util.Collections;
+import java.util.List;
+import java.util.Map;
 import java.util.Set;
 import java.util.TreeSet;
 
@@ -68,28 +71,32 @@ public final class FaceTest {
     }
 
     private static void newObject() {
-        ZStreams x = new ZStreams(5);
-        int[] told = {0, 0, 0, 0, 0, 0, 0, -9, -9, -9, 0, 5};
-        for (int i = 0; i < told.length; i++) {
-            Check.due("new told " + i, x.told(i), told[i]);
+        Map<String, Object> seen = new Machine(5).sight();
+        for (String name : seen.keySet()) {
+            Check.due("new " + name, seen.get(name), ofNewObject(name));
         }
-        int[] sounds = {-9, 0, 0, 0, 0, 0, 0, 0, 0, 0};
-        for (int i = 0; i < sounds.length; i++) {
-            Check.due("new sounds " + i, x.sounds(i), sounds[i]);
-        }
-        for (int i = 0; i < 2000; i++) {
-            Check.due("new peek " + i, x.peek(i), 0);
-        }
-        for (int i = 0; i < 6; i++) {
-            Check.due("new file " + i, x.fileOf(i, 0), Check.NONE);
-            Check.due("new file's length " + i, x.fileOf(i, 1), 0);
-        }
-        Check.due("new depth", x.depth(), 0);
-        Check.due("new shown", x.shown(0), Check.NONE);
-        Check.due("new lineAt", x.lineAt(0), Check.NONE);
-        Check.due("new order", x.order(0, 0), Check.UNKNOWN);
+        Machine x = new Machine(5);
         Check.due("screen is on at first, transcript is not", x.sign(65), 1);
-        ZStreams y = new ZStreams(5);
+        Machine y = new Machine(5);
         Check.due("objects share nothing", y.told(0), 0);
+    }
+
+    /** What is due of a new object of version 5, by the names of Sight. */
+    private static Object ofNewObject(String name) {
+        return switch (name) {
+            case "typed signs" -> Collections.nCopies(60, List.of(Check.STATE, Check.NONE)).stream()
+                .flatMap(List::stream).toList();
+            case "answers" -> Collections.nCopies(9, List.of(Check.REFUSED, 0, 0, 0, 0, 0, 0)).stream()
+                .flatMap(List::stream).toList();
+            case "rest of the source" -> List.of();
+            case "screen" -> List.of(1, 65);
+            case "told 11" -> 5;
+            case "told 7", "told 8", "told 9", "sounds 0" -> Check.NONE;
+            default -> switch (name.split(" ")[0]) {
+                case "peek", "told", "sounds", "length", "depth" -> 0;
+                case "kind", "shown", "lineAt" -> Check.NONE;
+                default -> Check.UNKNOWN;
+            };
+        };
     }
 }

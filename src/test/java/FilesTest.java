@@ -13,7 +13,7 @@ public final class FilesTest {
     }
 
     private static void memory() {
-        ZStreams x = new ZStreams(1);
+        Machine x = new Machine(1);
         for (int at : new int[] {Check.LEAST, -1, 2000, 2001, Check.MOST}) {
             Check.due("peek " + at, x.peek(at), Check.UNKNOWN);
             Check.due("poke " + at, x.poke(at, 1), Check.UNKNOWN);
@@ -36,7 +36,7 @@ public final class FilesTest {
     }
 
     private static void answers() {
-        ZStreams x = new ZStreams(5);
+        Machine x = new Machine(5);
         for (int name : new int[] {Check.LEAST, -10, -8, -1, 6, Check.MOST}) {
             Check.due("answer " + name, x.answer(name), Check.OUTSIDE);
         }
@@ -57,7 +57,7 @@ public final class FilesTest {
     }
 
     private static void filesAsked() {
-        ZStreams x = new ZStreams(5);
+        Machine x = new Machine(5);
         Check.writeText(x, 0, "hi");
         x.poke(9, 200);
         Check.writePart(x, 5, 9, 1);
@@ -85,7 +85,7 @@ public final class FilesTest {
     }
 
     private static void dropped() {
-        ZStreams x = new ZStreams(5);
+        Machine x = new Machine(5);
         for (int name : new int[] {Check.LEAST, -9, -1, 6, Check.MOST}) {
             Check.due("drop " + name, x.drop(name), Check.UNKNOWN);
         }
@@ -118,7 +118,7 @@ public final class FilesTest {
     }
 
     private static void saved() {
-        ZStreams x = new ZStreams(5);
+        Machine x = new Machine(5);
         for (int i = 0; i < 450; i++) {
             x.poke(i, i % 256);
         }
@@ -134,7 +134,7 @@ public final class FilesTest {
         Check.due("over a part", x.save(1999, 1), 1);
         Check.due("its length alone", x.fileOf(2, 1), 1);
         Check.due("rows", Check.rows(x), "0:2 0:2");
-        ZStreams y = new ZStreams(5);
+        Machine y = new Machine(5);
         Check.writeText(y, 3, "text");
         y.answer(3);
         Check.due("over a text", y.save(2000, 0), 1);
@@ -143,7 +143,7 @@ public final class FilesTest {
     }
 
     private static void saveRefusals() {
-        ZStreams x = new ZStreams(5);
+        Machine x = new Machine(5);
         x.answer(1);
         Check.due("room ahead of memory", x.save(-1, 401), Check.ROOM);
         Check.due("room of the most", x.save(0, Check.MOST), Check.ROOM);
@@ -164,7 +164,7 @@ public final class FilesTest {
     }
 
     private static void loaded() {
-        ZStreams x = new ZStreams(5);
+        Machine x = new Machine(5);
         for (int i = 0; i < 10; i++) {
             x.poke(i, 201 + i);
         }
@@ -187,7 +187,7 @@ public final class FilesTest {
     }
 
     private static void loadFaults() {
-        ZStreams x = new ZStreams(5);
+        Machine x = new Machine(5);
         Check.writePart(x, 1, 0, 5);
         Check.writeText(x, 2, "t");
         int[][] runs = {

@@ -17,7 +17,7 @@ public final class LinesTest {
     }
 
     private static void typed() {
-        ZStreams x = new ZStreams(1);
+        Machine x = new Machine(1);
         for (int c : new int[] {Check.LEAST, -1, 0, 12, 14, 31, 127, Check.MOST}) {
             Check.due("type " + c, x.type(c), Check.OUTSIDE);
         }
@@ -33,7 +33,7 @@ public final class LinesTest {
     }
 
     private static void sourceChosen() {
-        ZStreams x = new ZStreams(5);
+        Machine x = new Machine(5);
         Check.due("refused", x.source(true), Check.REFUSED);
         x.answer(-9);
         Check.due("refused by NONE", x.source(true), Check.REFUSED);
@@ -63,7 +63,7 @@ public final class LinesTest {
     }
 
     private static void linesFromKeyboard() {
-        ZStreams x = new ZStreams(3);
+        Machine x = new Machine(3);
         Check.type(x, "go north/look//x");
         Check.due("first", x.line(40), 8);
         Check.due("its signs", Check.line(x), "go north");
@@ -77,7 +77,7 @@ public final class LinesTest {
     }
 
     private static void linesAtTheirMost() {
-        ZStreams x = new ZStreams(3);
+        Machine x = new Machine(3);
         Check.type(x, "abcdef/g");
         Check.due("3", x.line(3), 3);
         Check.due("abc", Check.line(x), "abc");
@@ -98,7 +98,7 @@ public final class LinesTest {
     }
 
     private static void linesRefused() {
-        ZStreams x = new ZStreams(3);
+        Machine x = new Machine(3);
         Check.due("none waits", x.line(1), Check.STATE);
         Check.type(x, "ab");
         for (int most : new int[] {Check.LEAST, -1, 0, 41, Check.MOST}) {
@@ -115,7 +115,7 @@ public final class LinesTest {
     }
 
     private static void linesFromFile() {
-        ZStreams x = new ZStreams(5);
+        Machine x = new Machine(5);
         x.answer(1);
         x.choose(2, true, 0);
         Check.sign(x, "one//twothree/end");
@@ -142,7 +142,7 @@ public final class LinesTest {
     }
 
     private static void filesThatEnd() {
-        ZStreams x = new ZStreams(5);
+        Machine x = new Machine(5);
         x.answer(0);
         x.choose(4, true, 0);
         x.answer(0);
@@ -173,7 +173,7 @@ public final class LinesTest {
     }
 
     private static void sourceThatChanges() {
-        ZStreams x = new ZStreams(5);
+        Machine x = new Machine(5);
         Check.writeText(x, 1, "ab");
         x.answer(1);
         x.source(true);
@@ -190,7 +190,7 @@ public final class LinesTest {
     }
 
     private static void echo() {
-        ZStreams x = new ZStreams(5);
+        Machine x = new Machine(5);
         x.answer(0);
         x.choose(2, true, 0);
         x.answer(1);
@@ -228,7 +228,7 @@ public final class LinesTest {
     }
 
     private static void echoToTranscriptWithoutFile() {
-        ZStreams x = new ZStreams(5);
+        Machine x = new Machine(5);
         x.transcript(true);
         x.answer(-9);
         x.answer(4);
@@ -240,7 +240,7 @@ public final class LinesTest {
     }
 
     private static void echoThatIsLost() {
-        ZStreams x = new ZStreams(5);
+        Machine x = new Machine(5);
         x.answer(0);
         x.choose(2, true, 0);
         x.answer(0);
@@ -258,7 +258,7 @@ public final class LinesTest {
     }
 
     private static void lineAsked() {
-        ZStreams x = new ZStreams(5);
+        Machine x = new Machine(5);
         Check.due("no line yet", x.lineAt(0), Check.NONE);
         Check.type(x, "abc/d/");
         x.line(9);

@@ -1,75 +1,96 @@
+import java.util.ArrayList;
 import java.util.HashMap;
 import java.util.List;
 import java.util.Map;
 import java.util.Random;
 
 /**
- * Long runs of mixed calls, right and wrong ones, held against Model; and that a refusal, which
- * is known by its answer, leaves all that can be seen as it was. The seeds are fixed.
+ * Long runs of mixed calls, right and wrong ones, held against Model: their answers, all that can
+ * be seen behind some of them, and that a run answers the same without its refused calls, which
+ * change nothing. The seeds are fixed.
  */
 public final class MixedRunsTest {
-    private static final int RUNS = 3000, CALLS = 512;
+    private static final int RUNS = 3000, LOOKED_AT = 300;
     private static final int[] EDGES = {Integer.MIN_VALUE, Integer.MIN_VALUE + 1, -2000, -10, -9, -2, -1, 0, 1, 2, 3,
         4, 5, 6, 9, 10, 13, 16, 17, 40, 41, 60, 99, 100, 126, 127, 199, 200, 255, 256, 399, 400, 401, 1600, 1998,
         1999, 2000, 2001, 65535, 65536, Integer.MAX_VALUE - 1, Integer.MAX_VALUE};
 
+    private final int seed;
     private final Random random;
-    private final ZStreams real;
+    private final int version;
+    private final Machine real;
     private final Model model;
-    private final Map<Integer, Integer> answers;
-    private String call;
-    private int got;
-    private int want;
+    private final List<Call> made = new ArrayList<>();
+    private final List<Call> kept = new ArrayList<>();
+    private final List<Integer> keptAnswers = new ArrayList<>();
 
-    private MixedRunsTest(int seed, Map<Integer, Integer> answers) {
+    private MixedRunsTest(int seed) {
+        this.seed = seed;
         random = new Random(seed);
-        int version = random.nextInt(10);
-        real = new ZStreams(version);
+        version = random.nextInt(10);
+        real = new Machine(version);
         model = new Model(version);
-        this.answers = answers;
     }
 
     public static void main(String[] args) {
         Map<Integer, Integer> answers = new HashMap<>();
         for (int seed = 0; seed < RUNS; seed++) {
-            new MixedRunsTest(seed, answers).run(seed);
+            MixedRunsTest test = new MixedRunsTest(seed);
+            test.run(Machine.MOST_CALLS, answers);
+            test.runWithoutRefusals();
+        }
+        for (int seed = RUNS; seed < RUNS + LOOKED_AT; seed++) {
+            MixedRunsTest test = new MixedRunsTest(seed);
+            test.run(test.random.nextInt(Machine.MOST_CALLS - Sight.CALLS), answers);
+            test.compareSights();
         }
         for (int answer : new int[] {-1, -2, -3, -4, -5, -9, -11, -12, -13, -14, -15, -16}) {
             Check.due("the runs come upon " + answer, answers.getOrDefault(answer, 0) > 20, true);
         }
-        refusals();
         Check.end();
     }
 
-    private void run(int seed) {
+    private void run(int calls, Map<Integer, Integer> answers) {
         int favourite = random.nextInt(24);
-        for (int i = 0; i < CALLS; i++) {
-            make(random.nextInt(3) == 0 ? favourite : random.nextInt(24));
+        for (int i = 0; i < calls; i++) {
+            Call call = some(random.nextInt(3) == 0 ? favourite : random.nextInt(24));
+            int source = model.told(7);
+            int got = call.on(real);
+            int want = call.on(model);
+            Check.due("seed " + seed + ", call " + i + ": " + call.text(), got, want);
             answers.merge(got, 1, Integer::sum);
-            Check.due("seed " + seed + ", call " + i + ": " + call, got, want);
-        }
-        compareAll(seed);
-    }
-
-    private void compareAll(int seed) {
-        for (int i = 0; i < 2000; i++) {
-            Check.due("seed " + seed + ": peek " + i, real.peek(i), model.peek(i));
-        }
-        for (int i = 0; i <= 11; i++) {
-            Check.due("seed " + seed + ": told " + i, real.told(i), model.told(i));
-        }
-        for (int i = 0; i <= 200; i++) {
-            Check.due("seed " + seed + ": kind " + i, real.order(i, 0), model.order(i, 0));
-            Check.due("seed " + seed + ": number " + i, real.order(i, 1), model.order(i, 1));
-            Check.due("seed " + seed + ": shown " + i, real.shown(i), model.shown(i));
-            Check.due("seed " + seed + ": lineAt " + i, real.lineAt(i), model.lineAt(i));
-        }
-        for (int name = 0; name < 6; name++) {
-            Check.due("seed " + seed + ": file " + name, real.fileOf(name, 0), model.fileOf(name, 0));
-            for (int i = 0; i <= real.fileOf(name, 1); i++) {
-                Check.due("seed " + seed + ": byte " + name + " " + i, real.byteOf(name, i), model.byteOf(name, i));
+            made.add(call);
+            boolean refused = got <= -1 && got >= -4;
+            boolean endedFile = source != model.told(7);
+            if (!refused || endedFile) {
+                kept.add(call);
+                keptAnswers.add(got);
             }
         }
+    }
+
+    private void runWithoutRefusals() {
+        Machine other = new Machine(version);
+        for (int i = 0; i < kept.size(); i++) {
+            Check.due("seed " + seed + " without refusals: " + kept.get(i).text(), kept.get(i).on(other),
+                keptAnswers.get(i));
+        }
+    }
+
+    private void compareSights() {
+        Map<String, Object> want = Sight.of(real.callsLeft(), this::modelAgain);
+        Map<String, Object> got = real.sight();
+        for (String name : want.keySet()) {
+            Check.due("seed " + seed + " behind its calls: " + name, got.get(name), want.get(name));
+        }
+    }
+
+    private Streams modelAgain() {
+        Model other = new Model(version);
+        for (Call call : made) {
+            call.on(other);
+        }
+        return other;
     }
 
     /** A number of least to most, but now and then one from anywhere. */
@@ -88,60 +109,51 @@ public final class MixedRunsTest {
         return random.nextInt(6) == 0 ? -9 : some(0, 5);
     }
 
-    private void answered(String text, int fromReal, int fromModel) {
-        call = text;
-        got = fromReal;
-        want = fromModel;
-    }
-
-    private void make(int which) {
+    private Call some(int which) {
         boolean on = random.nextInt(3) > 0;
         if (which < 8) {
-            makeStreams(which, on);
-        } else if (which < 15) {
-            makeFiles(which);
-        } else {
-            makeOthers(which, on);
+            return someOfStreams(which, on);
         }
+        return which < 15 ? someOfFiles(which) : someOther(which, on);
     }
 
-    private void makeStreams(int which, boolean on) {
+    private Call someOfStreams(int which, boolean on) {
         int a = some(1, 4);
         int place = some(0, random.nextBoolean() ? 40 : 2000);
         int c = someSign();
         int i = some(0, 17);
         int what = some(0, 1);
         int ago = some(0, 101);
-        switch (which) {
-            case 0 -> answered("choose " + a + " " + on + " " + place, real.choose(a, on, place), model.choose(a, on, place));
-            case 1, 2 -> answered("sign " + c, real.sign(c), model.sign(c));
-            case 3 -> answered("depth", real.depth(), model.depth());
-            case 4 -> answered("table " + i + " " + what, real.table(i, what), model.table(i, what));
-            case 5 -> answered("shown " + ago, real.shown(ago), model.shown(ago));
-            case 6 -> answered("transcript " + on, real.transcript(on), model.transcript(on));
-            default -> answered("peek " + place, real.peek(place), model.peek(place));
-        }
+        return switch (which) {
+            case 0 -> new Call("choose " + a + " " + on + " " + place, x -> x.choose(a, on, place));
+            case 1, 2 -> new Call("sign " + c, x -> x.sign(c));
+            case 3 -> new Call("depth", x -> x.depth());
+            case 4 -> new Call("table " + i + " " + what, x -> x.table(i, what));
+            case 5 -> new Call("shown " + ago, x -> x.shown(ago));
+            case 6 -> new Call("transcript " + on, x -> x.transcript(on));
+            default -> new Call("peek " + place, x -> x.peek(place));
+        };
     }
 
-    private void makeFiles(int which) {
+    private Call someOfFiles(int which) {
         int place = some(0, random.nextBoolean() ? 40 : 2000);
         int v = some(0, 255);
         int name = someName();
         int what = some(0, 1);
         int i = some(0, 20);
         int n = some(0, random.nextBoolean() ? 10 : 405);
-        switch (which) {
-            case 8 -> answered("poke " + place + " " + v, real.poke(place, v), model.poke(place, v));
-            case 9 -> answered("answer " + name, real.answer(name), model.answer(name));
-            case 10 -> answered("fileOf " + name + " " + what, real.fileOf(name, what), model.fileOf(name, what));
-            case 11 -> answered("byteOf " + name + " " + i, real.byteOf(name, i), model.byteOf(name, i));
-            case 12 -> answered("drop " + name, real.drop(name), model.drop(name));
-            case 13 -> answered("save " + place + " " + n, real.save(place, n), model.save(place, n));
-            default -> answered("load " + place + " " + n, real.load(place, n), model.load(place, n));
-        }
+        return switch (which) {
+            case 8 -> new Call("poke " + place + " " + v, x -> x.poke(place, v));
+            case 9 -> new Call("answer " + name, x -> x.answer(name));
+            case 10 -> new Call("fileOf " + name + " " + what, x -> x.fileOf(name, what));
+            case 11 -> new Call("byteOf " + name + " " + i, x -> x.byteOf(name, i));
+            case 12 -> new Call("drop " + name, x -> x.drop(name));
+            case 13 -> new Call("save " + place + " " + n, x -> x.save(place, n));
+            default -> new Call("load " + place + " " + n, x -> x.load(place, n));
+        };
     }
 
-    private void makeOthers(int which, boolean on) {
+    private Call someOther(int which, boolean on) {
         int c = someSign();
         int most = some(1, random.nextBoolean() ? 4 : 40);
         int i = some(0, 12);
@@ -150,35 +162,17 @@ public final class MixedRunsTest {
         int turns = random.nextInt(9) == 0 ? 255 : some(0, 4);
         int routine = some(0, 3);
         int what = some(0, 1);
-        switch (which) {
-            case 15, 16 -> answered("type " + c, real.type(c), model.type(c));
-            case 17 -> answered("source " + on, real.source(on), model.source(on));
-            case 18 -> answered("line " + most, real.line(most), model.line(most));
-            case 19 -> answered("lineAt " + i, real.lineAt(i), model.lineAt(i));
-            case 20 -> answered("sound " + number + " " + effect + " " + turns + " " + routine,
-                real.sound(number, effect, turns, routine), model.sound(number, effect, turns, routine));
-            case 21 -> answered("ended", real.ended(), model.ended());
-            case 22 -> answered("order " + i + " " + what, real.order(i, what), model.order(i, what));
-            default -> {
-                answered("told " + i, real.told(i), model.told(i));
-                Check.due("sounds " + i, real.sounds(i), model.sounds(i));
-            }
-        }
-    }
-
-    /** UNKNOWN, OUTSIDE, STATE and ROOM change nothing (but for STATE behind a file that is ended). */
-    private static void refusals() {
-        for (int seed = 0; seed < 60; seed++) {
-            MixedRunsTest run = new MixedRunsTest(seed, new HashMap<>());
-            for (int i = 0; i < 200; i++) {
-                List<Integer> before = Check.state(run.real);
-                int source = run.real.told(7);
-                run.make(run.random.nextInt(24));
-                boolean refused = run.got <= -1 && run.got >= -4 && source == run.real.told(7);
-                if (refused) {
-                    Check.due("after " + run.call, Check.state(run.real), before);
-                }
-            }
-        }
+        boolean toldOrSounds = random.nextBoolean();
+        return switch (which) {
+            case 15, 16 -> new Call("type " + c, x -> x.type(c));
+            case 17 -> new Call("source " + on, x -> x.source(on));
+            case 18 -> new Call("line " + most, x -> x.line(most));
+            case 19 -> new Call("lineAt " + i, x -> x.lineAt(i));
+            case 20 -> new Call("sound " + number + " " + effect + " " + turns + " " + routine,
+                x -> x.sound(number, effect, turns, routine));
+            case 21 -> new Call("ended", x -> x.ended());
+            case 22 -> new Call("order " + i + " " + what, x -> x.order(i, what));
+            default -> toldOrSounds ? new Call("told " + i, x -> x.told(i)) : new Call("sounds " + i, x -> x.sounds(i));
+        };
     }
 }

@@ -6,7 +6,7 @@ import java.util.List;
 import java.util.TreeSet;
 
 /** The document told once more in library terms, to hold long mixed runs against. */
-final class Model {
+final class Model implements Streams {
     private static final class Stored {
         final boolean text;
         final List<Integer> bytes = new ArrayList<>();
@@ -86,7 +86,8 @@ final class Model {
         return 1;
     }
 
-    int choose(int stream, boolean on, int table) {
+    @Override
+    public int choose(int stream, boolean on, int table) {
         if (!within(stream, 1, version > 2 ? 4 : 2)) {
             return -1;
         }
@@ -151,7 +152,8 @@ final class Model {
         return came;
     }
 
-    int sign(int c) {
+    @Override
+    public int sign(int c) {
         if (!isSign(c)) {
             return -2;
         }
@@ -167,29 +169,35 @@ final class Model {
         return 1;
     }
 
-    int depth() {
+    @Override
+    public int depth() {
         return tables.size();
     }
 
-    int table(int i, int what) {
+    @Override
+    public int table(int i, int what) {
         return !within(i, 0, tables.size() - 1) ? -1 : !within(what, 0, 1) ? -2 : tables.get(i)[what];
     }
 
-    int shown(int ago) {
+    @Override
+    public int shown(int ago) {
         return within(ago, 0, Math.min(100, screen.size()) - 1) ? screen.get(screen.size() - 1 - ago) : -9;
     }
 
-    int transcript(boolean bit) {
+    @Override
+    public int transcript(boolean bit) {
         int was = memory[17] % 2;
         memory[17] += (bit ? 1 : 0) - was;
         return was;
     }
 
-    int peek(int at) {
+    @Override
+    public int peek(int at) {
         return inMemory(at, 1) ? memory[at] : -1;
     }
 
-    int poke(int at, int v) {
+    @Override
+    public int poke(int at, int v) {
         int was = peek(at);
         if (was >= 0 && !within(v, 0, 255)) {
             return -2;
@@ -200,7 +208,8 @@ final class Model {
         return was;
     }
 
-    int answer(int name) {
+    @Override
+    public int answer(int name) {
         if (name != -9 && !within(name, 0, 5)) {
             return -2;
         }
@@ -211,7 +220,8 @@ final class Model {
         return answers.size();
     }
 
-    int fileOf(int name, int what) {
+    @Override
+    public int fileOf(int name, int what) {
         Stored f = file(name);
         if (!within(name, 0, 5)) {
             return -1;
@@ -222,12 +232,14 @@ final class Model {
         return what == 0 ? (f == null ? -9 : f.text ? 0 : 1) : f == null ? 0 : f.bytes.size();
     }
 
-    int byteOf(int name, int i) {
+    @Override
+    public int byteOf(int name, int i) {
         Stored f = file(name);
         return f == null || !within(i, 0, f.bytes.size() - 1) ? -1 : f.bytes.get(i);
     }
 
-    int drop(int name) {
+    @Override
+    public int drop(int name) {
         if (!within(name, 0, 5)) {
             return -1;
         }
@@ -236,7 +248,8 @@ final class Model {
         return was;
     }
 
-    int save(int from, int n) {
+    @Override
+    public int save(int from, int n) {
         int fault = n > 400 ? -4 : n < 0 ? -15 : !inMemory(from, n) ? -12 : 0;
         int name = fault == 0 ? ask() : -9;
         if (name == -9) {
@@ -249,7 +262,8 @@ final class Model {
         return 1;
     }
 
-    int load(int at, int n) {
+    @Override
+    public int load(int at, int n) {
         int name = ask();
         Stored f = file(name);
         if (f == null || f.text) {
@@ -265,7 +279,8 @@ final class Model {
         return size;
     }
 
-    int type(int c) {
+    @Override
+    public int type(int c) {
         if (!isSign(c) || typed.size() == 60) {
             return isSign(c) ? -4 : -2;
         }
@@ -273,7 +288,8 @@ final class Model {
         return typed.size();
     }
 
-    int source(boolean isFile) {
+    @Override
+    public int source(boolean isFile) {
         int name = isFile ? ask() : -9;
         Stored f = file(name);
         if (isFile && (f == null || !f.text)) {
@@ -284,7 +300,8 @@ final class Model {
         return 1;
     }
 
-    int line(int most) {
+    @Override
+    public int line(int most) {
         if (!within(most, 1, 40)) {
             return -2;
         }
@@ -318,7 +335,8 @@ final class Model {
         return n;
     }
 
-    int lineAt(int i) {
+    @Override
+    public int lineAt(int i) {
         return within(i, 0, latest.size() - 1) ? latest.get(i) : -9;
     }
 
@@ -331,7 +349,8 @@ final class Model {
         return true;
     }
 
-    int sound(int number, int effect, int turns, int routine) {
+    @Override
+    public int sound(int number, int effect, int turns, int routine) {
         if (!within(number, 1, 9)) {
             return -1;
         }
@@ -360,7 +379,8 @@ final class Model {
         return 1;
     }
 
-    int ended() {
+    @Override
+    public int ended() {
         if (playing == null) {
             return -3;
         }
@@ -375,18 +395,21 @@ final class Model {
         return routine == 0 ? 0 : 1;
     }
 
-    int sounds(int what) {
+    @Override
+    public int sounds(int what) {
         if (!within(what, 0, 9)) {
             return -2;
         }
         return what > 2 ? (ready.contains(what) ? 1 : 0) : playing != null ? playing[what] : what == 0 ? -9 : 0;
     }
 
-    int order(int i, int what) {
+    @Override
+    public int order(int i, int what) {
         return !within(i, 0, rows.size() - 1) ? -1 : !within(what, 0, 1) ? -2 : rows.get(i)[what];
     }
 
-    int told(int what) {
+    @Override
+    public int told(int what) {
         int[] all = {screen.size(), told[1], told[2], told[3], told[4], answers.size(), typed.size(),
             sourceFile, transcriptFile, commandsFile, rows.size(), version};
         return within(what, 0, 11) ? all[what] : -2;

@@ -9,7 +9,7 @@ public final class OrderTest {
     }
 
     private static void everyKind() {
-        ZStreams x = new ZStreams(5);
+        Machine x = new Machine(5);
         x.answer(3);
         x.choose(4, true, 0);
         x.choose(3, true, 50);
@@ -25,7 +25,7 @@ public final class OrderTest {
     }
 
     private static void rowsAsked() {
-        ZStreams x = new ZStreams(5);
+        Machine x = new Machine(5);
         x.sound(2, 1, 0, 0);
         Check.due("kind", x.order(0, 0), 4);
         Check.due("number", x.order(0, 1), 2);
@@ -39,7 +39,7 @@ public final class OrderTest {
     }
 
     private static void twoHundred() {
-        ZStreams x = new ZStreams(5);
+        Machine x = new Machine(5);
         for (int i = 0; i < 199; i++) {
             x.sound(1 + i % 2, 1, 0, 0);
             Check.due("rows", x.told(10), i + 1);
@@ -59,7 +59,7 @@ public final class OrderTest {
     }
 
     private static void toldAsked() {
-        ZStreams x = new ZStreams(6);
+        Machine x = new Machine(6);
         for (int what : new int[] {Check.LEAST, -9, -1, 12, Check.MOST}) {
             Check.due("told " + what, x.told(what), Check.OUTSIDE);
         }

@@ -15,7 +15,7 @@ public final class SoundsTest {
     }
 
     private static void refusals() {
-        ZStreams x = new ZStreams(5);
+        Machine x = new Machine(5);
         for (int number : new int[] {Check.LEAST, -1, 0, 10, Check.MOST}) {
             Check.due("sound " + number, x.sound(number, 2, 1, 0), Check.UNKNOWN);
             Check.due("unknown ahead of outside " + number, x.sound(number, 0, -1, -1), Check.UNKNOWN);
@@ -36,7 +36,7 @@ public final class SoundsTest {
     }
 
     private static void bleeps() {
-        ZStreams x = new ZStreams(1);
+        Machine x = new Machine(1);
         x.sound(5, 2, 3, 0);
         for (int effect = 1; effect <= 4; effect++) {
             Check.due("bleep 1", x.sound(1, effect, 255, 65535), 1);
@@ -47,7 +47,7 @@ public final class SoundsTest {
     }
 
     private static void madeReady() {
-        ZStreams x = new ZStreams(5);
+        Machine x = new Machine(5);
         for (int number = 3; number <= 9; number++) {
             Check.due("not ready " + number, x.sounds(number), 0);
             Check.due("prepare " + number, x.sound(number, 1, 7, 7), 1);
@@ -59,7 +59,7 @@ public final class SoundsTest {
     }
 
     private static void begun() {
-        ZStreams x = new ZStreams(5);
+        Machine x = new Machine(5);
         Check.due("begin", x.sound(3, 2, 0, 0), 1);
         Check.due("plays", x.sounds(0), 3);
         Check.due("0 as 1", x.sounds(1), 1);
@@ -77,7 +77,7 @@ public final class SoundsTest {
     }
 
     private static void stopped() {
-        ZStreams x = new ZStreams(5);
+        Machine x = new Machine(5);
         Check.due("none plays", x.sound(3, 3, 0, 0), 0);
         x.sound(3, 2, 2, 50);
         Check.due("another one", x.sound(4, 3, 0, 0), 0);
@@ -93,7 +93,7 @@ public final class SoundsTest {
     }
 
     private static void released() {
-        ZStreams x = new ZStreams(5);
+        Machine x = new Machine(5);
         Check.due("not ready", x.sound(6, 4, 0, 0), 0);
         x.sound(6, 1, 0, 0);
         Check.due("ready", x.sound(6, 4, 0, 0), 1);
@@ -110,7 +110,7 @@ public final class SoundsTest {
     }
 
     private static void turns() {
-        ZStreams x = new ZStreams(5);
+        Machine x = new Machine(5);
         Check.due("none plays", x.ended(), Check.STATE);
         x.sound(4, 2, 3, 0);
         for (int left = 2; left >= 1; left--) {
@@ -132,7 +132,7 @@ public final class SoundsTest {
     }
 
     private static void forEver() {
-        ZStreams x = new ZStreams(8);
+        Machine x = new Machine(8);
         x.sound(4, 2, 255, 77);
         for (int i = 0; i < 300; i++) {
             Check.due("plays on", x.ended(), 0);
@@ -143,7 +143,7 @@ public final class SoundsTest {
 
     private static void routines() {
         for (int version = 1; version <= 8; version++) {
-            ZStreams x = new ZStreams(version);
+            Machine x = new Machine(version);
             boolean called = version >= 5;
             x.sound(8, 2, 2, 1234);
             Check.due("routine in version " + version, x.sounds(2), called ? 1234 : 0);
@@ -156,7 +156,7 @@ public final class SoundsTest {
     }
 
     private static void soundsAsked() {
-        ZStreams x = new ZStreams(5);
+        Machine x = new Machine(5);
         for (int what : new int[] {Check.LEAST, -1, 10, Check.MOST}) {
             Check.due("sounds " + what, x.sounds(what), Check.OUTSIDE);
         }

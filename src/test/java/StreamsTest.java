@@ -21,7 +21,7 @@ public final class StreamsTest {
 
     private static void unknownStreams() {
         for (int version = 1; version <= 8; version++) {
-            ZStreams x = new ZStreams(version);
+            Machine x = new Machine(version);
             x.answer(1);
             for (int stream : new int[] {Check.LEAST, -3, -1, 0, 5, Check.MOST}) {
                 Check.due("choose " + stream, x.choose(stream, true, 0), Check.UNKNOWN);
@@ -39,7 +39,7 @@ public final class StreamsTest {
     }
 
     private static void screenOnAndOff() {
-        ZStreams x = new ZStreams(1);
+        Machine x = new Machine(1);
         Check.due("screen off", x.choose(1, false, 0), 1);
         Check.due("sign to none", x.sign(65), 0);
         Check.due("none came", x.told(0), 0);
@@ -51,7 +51,7 @@ public final class StreamsTest {
     }
 
     private static void transcriptChosen() {
-        ZStreams x = new ZStreams(2);
+        Machine x = new Machine(2);
         x.poke(17, 254);
         x.answer(-9);
         Check.due("refused by NONE", x.choose(2, true, 0), Check.REFUSED);
@@ -79,7 +79,7 @@ public final class StreamsTest {
     }
 
     private static void transcriptGetsOtherFiles() {
-        ZStreams x = new ZStreams(5);
+        Machine x = new Machine(5);
         Check.writePart(x, 1, 0, 3);
         Check.writeText(x, 2, "old");
         x.answer(1);
@@ -96,7 +96,7 @@ public final class StreamsTest {
     }
 
     private static void transcriptByTheBit() {
-        ZStreams x = new ZStreams(5);
+        Machine x = new Machine(5);
         x.transcript(true);
         Check.due("nothing is asked for", x.told(10), 0);
         Check.due("lost without an answer", x.sign(65), 1);
@@ -119,7 +119,7 @@ public final class StreamsTest {
     }
 
     private static void transcriptLosesSigns() {
-        ZStreams x = new ZStreams(5);
+        Machine x = new Machine(5);
         x.answer(0);
         x.choose(2, true, 0);
         for (int i = 0; i < 400; i++) {
@@ -142,7 +142,7 @@ public final class StreamsTest {
     }
 
     private static void tablesNest() {
-        ZStreams x = new ZStreams(5);
+        Machine x = new Machine(5);
         x.answer(0);
         x.choose(2, true, 0);
         x.poke(100, 9);
@@ -185,7 +185,7 @@ public final class StreamsTest {
     }
 
     private static void tablesAtTheEdges() {
-        ZStreams x = new ZStreams(8);
+        Machine x = new Machine(8);
         for (int address : new int[] {Check.LEAST, -2, -1, 1999, 2000, Check.MOST - 1, Check.MOST}) {
             Check.due("open at " + address, x.choose(3, true, address), Check.MEMORY);
         }
@@ -209,7 +209,7 @@ public final class StreamsTest {
     }
 
     private static void tablesOverTheBit() {
-        ZStreams x = new ZStreams(8);
+        Machine x = new Machine(8);
         x.choose(3, true, 15);
         x.sign(35);
         x.choose(3, false, 0);
@@ -223,7 +223,7 @@ public final class StreamsTest {
 
     private static void tablesOfOldVersions() {
         for (int version = 3; version <= 8; version++) {
-            ZStreams x = new ZStreams(version);
+            Machine x = new Machine(version);
             Check.due("first", x.choose(3, true, 10), 1);
             Check.due("second in version " + version, x.choose(3, true, 20), version < 5 ? Check.DEEP : 1);
             Check.due("depth", x.depth(), version < 5 ? 1 : 2);
@@ -231,7 +231,7 @@ public final class StreamsTest {
     }
 
     private static void commandsChosen() {
-        ZStreams x = new ZStreams(3);
+        Machine x = new Machine(3);
         Check.due("refused", x.choose(4, true, 0), Check.REFUSED);
         Check.due("off", x.told(9), Check.NONE);
         Check.writePart(x, 2, 0, 9);
@@ -261,7 +261,7 @@ public final class StreamsTest {
     }
 
     private static void signsOutside() {
-        ZStreams x = new ZStreams(5);
+        Machine x = new Machine(5);
         for (int c : new int[] {Check.LEAST, -13, -1, 0, 10, 12, 14, 31, 127, 128, 255, 13 + 256, Check.MOST}) {
             Check.due("sign " + c, x.sign(c), Check.OUTSIDE);
         }
@@ -277,7 +277,7 @@ public final class StreamsTest {
     }
 
     private static void tableAsked() {
-        ZStreams x = new ZStreams(5);
+        Machine x = new Machine(5);
         Check.due("none", x.table(0, 0), Check.UNKNOWN);
         x.choose(3, true, 7);
         Check.due("address", x.table(0, 0), 7);
@@ -291,22 +291,22 @@ public final class StreamsTest {
     }
 
     private static void shownSigns() {
-        ZStreams x = new ZStreams(1);
-        for (int i = 0; i < 250; i++) {
+        Machine x = new Machine(1);
+        for (int i = 0; i < 150; i++) {
             int c = 32 + i % 95;
             x.sign(c);
             Check.due("latest " + i, x.shown(0), c);
             Check.due("99 ago at " + i, x.shown(99), i < 99 ? Check.NONE : 32 + (i - 99) % 95);
         }
-        Check.due("50 ago", x.shown(50), 32 + 199 % 95);
-        for (int ago : new int[] {Check.LEAST, -1, 100, 101, 249, Check.MOST}) {
+        Check.due("50 ago", x.shown(50), 32 + 99 % 95);
+        for (int ago : new int[] {Check.LEAST, -1, 100, 101, 149, Check.MOST}) {
             Check.due("ago " + ago, x.shown(ago), Check.NONE);
         }
-        Check.due("all came", x.told(0), 250);
+        Check.due("all came", x.told(0), 150);
     }
 
     private static void transcriptBit() {
-        ZStreams x = new ZStreams(4);
+        Machine x = new Machine(4);
         x.poke(17, 170);
         x.answer(0);
         Check.due("was 0", x.transcript(true), 0);
