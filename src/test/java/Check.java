@@ -15,13 +15,17 @@ final class Check {
 
     /** The words of the document to which the answers from here on are held. */
     static void sentence(String where, String words) {
+        endSentence();
+        sentences++;
+        sentence = where + " \"" + words + "\": ";
+    }
+
+    private static void endSentence() {
         if (checks == checksBefore) {
             wrong++;
             System.out.println(sentence + "nothing was held to it");
         }
         checksBefore = checks;
-        sentences++;
-        sentence = where + " \"" + words + "\": ";
     }
 
     static void due(String what, Object got, Object want) {
@@ -33,6 +37,7 @@ final class Check {
     }
 
     static void end() {
+        endSentence();
         System.out.println(checks + " answers" + (sentences > 0 ? " to " + sentences + " sentences" : "") + ", "
             + wrong + " not as due");
         if (wrong != 0 || checks == 0) {

@@ -86,7 +86,7 @@ public final class FaceTest {
         return switch (name) {
             case "typed signs" -> Collections.nCopies(60, List.of(Check.STATE, Check.NONE)).stream()
                 .flatMap(List::stream).toList();
-            case "answers" -> Collections.nCopies(9, List.of(Check.REFUSED, 0, 0, 0, 0, 0, 0)).stream()
+            case "answers" -> Collections.nCopies(9, List.of(0, Check.REFUSED, 0, 0, 0, 0, 0, 0)).stream()
                 .flatMap(List::stream).toList();
             case "rest of the source" -> List.of();
             case "screen" -> List.of(1, 65);

@@ -1,7 +1,11 @@
 import java.io.IOException;
+import java.lang.reflect.Field;
+import java.lang.reflect.Method;
 import java.lang.reflect.Modifier;
 import java.nio.file.Files;
 import java.nio.file.Path;
+import java.util.HashSet;
+import java.util.Set;
 import java.util.regex.Pattern;
 
 /** The rules of LANGUAGE.md that can be told from the text and the shape of the class. */
@@ -19,10 +23,37 @@ public final class RulesTest {
         }
         Class<?>[] inside = ZStreams.class.getDeclaredClasses();
         Check.due("at most twelve classes", inside.length < 12, true);
+        membersOf(ZStreams.class);
         for (Class<?> one : inside) {
             Check.due(one + " is static", Modifier.isStatic(one.getModifiers()), true);
             Check.due(one + " is not public", Modifier.isPublic(one.getModifiers()), false);
+            membersOf(one);
         }
+        privateNames();
         Check.end();
+    }
+
+    private static void membersOf(Class<?> one) {
+        int fields = 0;
+        for (Field field : one.getDeclaredFields()) {
+            boolean constant = Modifier.isStatic(field.getModifiers());
+            Check.due(field + " is final if it is static", !constant || Modifier.isFinal(field.getModifiers()), true);
+            fields += constant ? 0 : 1;
+        }
+        Check.due(one + " has at most twenty fields", fields <= 20, true);
+        for (Method method : one.getDeclaredMethods()) {
+            Check.due(method + " has at most seven parameters", method.getParameterCount() <= 7, true);
+        }
+    }
+
+    private static void privateNames() {
+        Set<String> names = new HashSet<>();
+        for (Method method : ZStreams.class.getMethods()) {
+            names.add(method.getName());
+        }
+        for (Method method : ZStreams.class.getDeclaredMethods()) {
+            boolean hidden = !Modifier.isPublic(method.getModifiers());
+            Check.due(method + " bears a public one's name", hidden && names.contains(method.getName()), false);
+        }
     }
 }

@@ -100,6 +100,7 @@ final class Sight {
         List<Integer> seen = new ArrayList<>();
         dropAll(x);
         for (int i = 0; i < 9; i++) {
+            seen.add(x.told(5));
             seen.add(x.save(0, 0));
             seen.addAll(dropAll(x));
         }
