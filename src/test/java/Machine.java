@@ -12,17 +12,24 @@ final class Machine implements Streams {
     static final int MOST_CALLS = 512;
 
     private final int version;
+    private final int mostCalls;
     private final ZStreams real;
     private final List<ToIntFunction<ZStreams>> calls = new ArrayList<>();
 
     Machine(int version) {
+        this(version, MOST_CALLS);
+    }
+
+    /** One that may be called more often: nothing is due of its later answers but that there is one. */
+    Machine(int version, int mostCalls) {
         this.version = version;
+        this.mostCalls = mostCalls;
         real = new ZStreams(version);
     }
 
     private int make(ToIntFunction<ZStreams> call) {
-        if (calls.size() == MOST_CALLS) {
-            throw new IllegalStateException("a test makes more than 512 calls on one object");
+        if (calls.size() == mostCalls) {
+            throw new IllegalStateException("a test makes more than " + mostCalls + " calls on one object");
         }
         calls.add(call);
         return call.applyAsInt(real);
@@ -30,7 +37,7 @@ final class Machine implements Streams {
 
     /** Another one on which the same calls have been made. */
     Machine again() {
-        Machine other = new Machine(version);
+        Machine other = new Machine(version, mostCalls);
         for (ToIntFunction<ZStreams> call : calls) {
             other.make(call);
         }
@@ -38,7 +45,7 @@ final class Machine implements Streams {
     }
 
     int callsLeft() {
-        return MOST_CALLS - calls.size();
+        return mostCalls - calls.size();
     }
 
     Map<String, Object> sight() {

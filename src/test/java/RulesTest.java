@@ -6,6 +6,7 @@ import java.nio.file.Files;
 import java.nio.file.Path;
 import java.util.HashSet;
 import java.util.Set;
+import java.util.regex.Matcher;
 import java.util.regex.Pattern;
 
 /** The rules of LANGUAGE.md that can be told from the text and the shape of the class. */
@@ -21,6 +22,8 @@ public final class RulesTest {
         for (String pattern : FORBIDDEN) {
             Check.due("the class has " + pattern, Pattern.compile(pattern).matcher(code).find(), false);
         }
+        libraryOf(code);
+        methodsOf(code);
         Class<?>[] inside = ZStreams.class.getDeclaredClasses();
         Check.due("at most twelve classes", inside.length < 12, true);
         membersOf(ZStreams.class);
@@ -31,6 +34,34 @@ public final class RulesTest {
         }
         privateNames();
         Check.end();
+    }
+
+    private static void libraryOf(String code) {
+        Set<String> called = new HashSet<>();
+        Matcher call = Pattern.compile("\\b([A-Z]\\w*\\.\\w+)\\(").matcher(code);
+        while (call.find()) {
+            called.add(call.group(1));
+        }
+        called.removeAll(Set.of("Math.max", "Math.min", "Math.floorMod", "Player.canBeReady"));
+        Check.due("calls beside Math's and the class's own", called, Set.of());
+    }
+
+    /** Constructors are left out: they alone make objects, so that no call uses the room up. */
+    private static void methodsOf(String code) {
+        int found = 0;
+        Matcher method = Pattern.compile("(?ms)^( +)(?:\\w+ )*(?:int|boolean|void) (\\w+)\\([^)]*\\) \\{\n(.*?)^\\1\\}")
+            .matcher(code);
+        while (method.find()) {
+            found++;
+            String name = method.group(2);
+            Check.due(name + " is short", method.group(3).lines().count() <= 60, true);
+            Check.due(name + " makes an object", Pattern.compile("\\bnew\\b").matcher(method.group(3)).find(), false);
+        }
+        int declared = ZStreams.class.getDeclaredMethods().length;
+        for (Class<?> one : ZStreams.class.getDeclaredClasses()) {
+            declared += one.getDeclaredMethods().length;
+        }
+        Check.due("methods looked at", found, declared);
     }
 
     private static void membersOf(Class<?> one) {
